@@ -433,7 +433,9 @@ public final class CensusWalk {
             System.arraycopy(other.start, 0, start, 0, MAX_STREETS);
             System.arraycopy(other.end, 0, end, 0, MAX_STREETS);
             System.arraycopy(other.length, 0, length, 0, MAX_STREETS);
-            System.arraycopy(other.open, 0, open, 0, MAX_STREETS);
+            for (int street = 0; street < MAX_STREETS; street++) {
+                open[street] = other.open[street];
+            }
         }
     }
 
@@ -482,8 +484,10 @@ public final class CensusWalk {
             System.arraycopy(other.persons, 0, persons, 0, MAX_HOUSES);
             System.arraycopy(other.from, 0, from, 0, MAX_HOUSES);
             System.arraycopy(other.to, 0, to, 0, MAX_HOUSES);
-            System.arraycopy(other.dog, 0, dog, 0, MAX_HOUSES);
             System.arraycopy(other.visits, 0, visits, 0, MAX_HOUSES * VISIT_KINDS);
+            for (int house = 0; house < MAX_HOUSES; house++) {
+                dog[house] = other.dog[house];
+            }
         }
     }
 
