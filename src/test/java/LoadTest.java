@@ -19,6 +19,7 @@ public final class LoadTest {
         tooDeep();
         firstError();
         longestText();
+        afterAnotherText();
         Check.end();
     }
 
@@ -198,6 +199,14 @@ public final class LoadTest {
         wrong("town 2;visit personsdog;", SYNTAX, 13);
         wrong("town 2;visit 2persons;", SYNTAX, 14);
         wrong("town 2;visit 1%2;", SYNTAX, 14);
+        wrong("zown 2;", SYNTAX, 0);
+        wrong("townz 2;", SYNTAX, 0);
+        wrong("town 2;xtreet 0 1 9;", SYNTAX, 7);
+        wrong("town 2;gapz 5;", SYNTAX, 7);
+        wrong("town 2;visit calls;", SYNTAX, 13);
+        wrong("town 2;visit `;", SYNTAX, 13);
+        wrong("town 2;visit dog{;", SYNTAX, 16);
+        wrong("town 2;visit 1/:;", SYNTAX, 15);
     }
 
     private static void rangeErrors() {
@@ -274,5 +283,29 @@ public final class LoadTest {
         Check.same("duration", walk.duration(0, 1), 240);
         Check.same("load of 900 bytes more", Check.load(walk, text.toString().replace("+", "-")), 1);
         Check.same("duration", walk.duration(0, 1), 1);
+    }
+
+    /** No text leaves anything behind for the next one, neither a right one nor a wrong one. */
+    private static void afterAnotherText() {
+        String all = STREET + "house 0 0 0 5 0 10;house 0 9 1 5 0 10;house 0 0 1 5 0 10;walker 0 0;cross 4;gap 3;visit 7;";
+        String few = STREET + "house 0 0 0 5 0 10;house 0 9 1 5 0 10;house 0 0 1 5 0 10;walker 0 50;";
+        CensusWalk walk = Check.town(all);
+        Check.same("crossing time", walk.distance(0, 2), 4);
+        Check.same("the same text again", Check.load(walk, all), 3);
+        Check.same("a wrong text", Check.load(walk, all + "gap 3;"), SYNTAX);
+        Check.same("a wrong gap", Check.load(walk, "town 2;gap 700;"), RANGE);
+        Check.same("a wrong cross", Check.load(walk, "town 2;visit 9;cross 70;"), RANGE);
+        Check.same("without the settings", Check.load(walk, few), 3);
+        Check.same("crossing time", walk.distance(0, 2), 0);
+        Check.same("duration", walk.duration(0, 1), 10);
+        walk.plan(0, 0);
+        walk.plan(0, 1);
+        walk.plan(0, 0);
+        walk.plan(0, 1);
+        Check.same("arrival(0, 2)", walk.arrival(0, 2), 70);
+        Check.same("gap, refused at 70", walk.result(0, 2), CensusWalk.REFUSED);
+        Check.same("the settings again", Check.load(walk, all), 3);
+        Check.same("crossing time", walk.distance(0, 2), 4);
+        Check.same("duration", walk.duration(0, 1), 7);
     }
 }

@@ -1,3 +1,5 @@
+import java.util.function.ToIntFunction;
+
 /** Promises 16 to 24 and 29 to 33: plans, their simulation, and the changes of houses and streets. */
 public final class PlanTest {
     private static final String THREE = "town 3;street 0 1 10;street 1 2 20;street 0 2 50;"
@@ -15,6 +17,8 @@ public final class PlanTest {
         unreachable();
         changes();
         afterMidnight();
+        byArrival();
+        afterEachChange();
         Check.end();
     }
 
@@ -266,5 +270,77 @@ public final class PlanTest {
         row(walk, 1, 1, CensusWalk.UNANSWERED, 1491);
         row(walk, 1, 2, CensusWalk.REFUSED, 1492);
         Check.same("finishAll()", walk.finishAll(), 1779);
+    }
+
+    /** The walker who arrives first is treated first, not the one who sets out first; UNREACHABLE takes no time. */
+    private static void byArrival() {
+        CensusWalk walk = Check.town("town 2;street 0 1 50;house 0 20 0 1 0 1440;walker 0 50;walker 1 30;walker 0 49;");
+        walk.plan(0, 0);
+        walk.plan(1, 0);
+        row(walk, 0, 0, CensusWalk.DONE, 70);
+        row(walk, 1, 0, CensusWalk.ANSWERED, 60);
+        Check.same("setHours(0, 0, 1440)", walk.setHours(0, 0, 1440), 1);
+        CensusWalk tie = Check.town("town 4;street 0 1 50;street 2 3 5;house 0 0 0 1 0 1440;house 1 0 0 1 0 1440;walker 0 60;walker 0 60;");
+        tie.plan(0, 1);
+        tie.plan(0, 1);
+        tie.plan(0, 0);
+        tie.plan(1, 0);
+        row(tie, 0, 2, CensusWalk.ANSWERED, 60);
+        row(tie, 1, 0, CensusWalk.DONE, 60);
+        Check.load(tie, "town 4;street 0 1 50;street 2 3 5;house 0 0 0 1 0 1440;house 1 0 0 1 0 1440;walker 0 60;walker 0 60;");
+        tie.plan(0, 0);
+        tie.plan(1, 1);
+        tie.plan(1, 0);
+        row(tie, 0, 0, CensusWalk.ANSWERED, 60);
+        row(tie, 1, 1, CensusWalk.DONE, 60);
+        Check.load(tie, "town 4;street 0 1 50;street 2 3 5;house 0 0 0 1 0 1440;house 0 1 0 1 0 1440;walker 0 60;walker 0 60;visit 1;");
+        tie.plan(0, 0);
+        Check.same("finishAll() of a plan of one house", tie.finishAll(), 61);
+    }
+
+    /** Each question as the very first one after a change, and again after an undo. */
+    private static void afterEachChange() {
+        first("result", walk -> walk.result(0, 1), CensusWalk.ANSWERED, CensusWalk.UNREACHABLE);
+        first("arrival", walk -> walk.arrival(0, 1), 115, 104);
+        first("finish", walk -> walk.finish(0), 125, 104);
+        first("finishAll", CensusWalk::finishAll, 125, 104);
+        first("counted", CensusWalk::counted, 3, 1);
+        first("persons", CensusWalk::persons, 5, 3);
+        first("calls", walk -> walk.calls(1), 1, 0);
+        first("distance", walk -> walk.distance(0, 1), 11, -1);
+        first("distanceFrom", walk -> walk.distanceFrom(0, 1), 15, -1);
+        first("soonest", walk -> walk.soonest(0, 2), 115, -1);
+        first("soonestOrder", walk -> walk.soonestOrder(0, 2, 0), 1, -1);
+        first("division", walk -> walk.division(2), 115, -1);
+        first("walkerOf", walk -> walk.walkerOf(2, 1), 0, -1);
+        first("checksum", walk -> walk.checksum() == closedSum(false) ? 1 : 0, 1, 0);
+        first("checksum", walk -> walk.checksum() == closedSum(true) ? 1 : 0, 0, 1);
+    }
+
+    private static void first(String name, ToIntFunction<CensusWalk> question, int open, int closed) {
+        CensusWalk walk = walkOfTwo();
+        Check.same("first " + name, question.applyAsInt(walk), open);
+        walk.setOpen(1, false);
+        Check.same(name + " after setOpen", question.applyAsInt(walk), closed);
+        walk.undo();
+        Check.same(name + " after undo", question.applyAsInt(walk), open);
+        CensusWalk other = walkOfTwo();
+        other.setOpen(1, false);
+        Check.same("first " + name + " after setOpen", question.applyAsInt(other), closed);
+    }
+
+    private static CensusWalk walkOfTwo() {
+        CensusWalk walk = Check.town(THREE + "walker 0 90;");
+        walk.plan(0, 0);
+        walk.plan(0, 1);
+        return walk;
+    }
+
+    private static long closedSum(boolean closed) {
+        CensusWalk walk = walkOfTwo();
+        walk.finish(0);
+        walk.setOpen(1, !closed);
+        walk.finish(0);
+        return walk.checksum();
     }
 }

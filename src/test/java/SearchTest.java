@@ -82,6 +82,22 @@ public final class SearchTest {
         order(walk, 0, 7, 0, 1, 2);
         walk.setHours(2, 119, 120);
         order(walk, 0, 7, 1, 0, 2);
+        closingTime();
+    }
+
+    /** House 3 opens so late that all orders end at 510, but after 0, 1 the walker is at house 2 at 120. */
+    private static void closingTime() {
+        CensusWalk walk = Check.town("town 2;street 0 1 50;house 0 20 0 1 0 1440;house 0 10 0 1 0 1440;house 0 30 0 1 0 120;house 0 40 0 1 500 1440;walker 0 50;");
+        order(walk, 0, 15, 0, 2, 1, 3);
+        walk.setHours(2, 0, 121);
+        order(walk, 0, 15, 0, 1, 2, 3);
+        walk.setHours(2, 0, 91);
+        order(walk, 0, 15, 0, 2, 1, 3);
+        walk.setHours(2, 0, 90);
+        order(walk, 0, 15, 2, 0, 1, 3);
+        walk.setHours(3, 500, 501);
+        order(walk, 0, 15, 2, 0, 1, 3);
+        Check.same("soonest(0, 15)", walk.soonest(0, 15), 510);
     }
 
     private static void noWay() {

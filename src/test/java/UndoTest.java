@@ -8,6 +8,7 @@ public final class UndoTest {
         changesAfterUndo();
         whatIsNoChange();
         loads();
+        overwrittenPlans();
         buffer();
         checksum();
         Check.end();
@@ -124,6 +125,22 @@ public final class UndoTest {
             Check.same("crossingCount()", walk.crossingCount(), left + 2);
         }
         Check.same("undo()", walk.undo(), -1);
+    }
+
+    private static void overwrittenPlans() {
+        CensusWalk walk = Check.town(TOWN);
+        walk.plan(1, 0);
+        walk.plan(1, 1);
+        walk.unplan(1);
+        walk.unplan(1);
+        walk.plan(1, 1);
+        walk.plan(1, 0);
+        for (int i = 0; i < 4; i++) {
+            walk.undo();
+        }
+        Check.same("planLength(1)", walk.planLength(1), 2);
+        Check.same("planned(1, 0)", walk.planned(1, 0), 0);
+        Check.same("planned(1, 1)", walk.planned(1, 1), 1);
     }
 
     private static void buffer() {
