@@ -1,7 +1,7 @@
 import java.util.Arrays;
 
 /**
- * A planner for a census of a town that is taken by walkers. Nothing is made after the constructor:
+ * A planner for a census of a town that is taken by walkers. Nothing but exceptions is made after the constructor:
  * every call works in rows that are made once, so that a long run needs no more room than a short one.
  */
 public final class CensusWalk {
@@ -770,7 +770,7 @@ public final class CensusWalk {
         private int begin = 0;
         /** For a subset and its last house: the earliest time after the last visit; NONE if impossible. */
         private final int[] early = new int[SETS * MAX_SET];
-        /** For a subset still to do and the house before it: the latest time to leave that house; NONE if impossible. */
+        /** For a subset still to do and the house before it: the latest time to leave the house; NONE if impossible. */
         private final int[] late = new int[SETS * MAX_SET];
         private final int[] ends = new int[MAX_WALKERS * SETS];
         private final int[] shares = new int[MAX_WALKERS];
@@ -1067,7 +1067,7 @@ public final class CensusWalk {
     }
 
     /** Cuts the text into tokens; the token that comes next is always at hand. */
-    private static final class Scanner {
+    private static final class Tokens {
         static final int END = 0;
         static final int NUMBER = 1;
         static final int WORD = 2;
@@ -1158,7 +1158,7 @@ public final class CensusWalk {
         int errorAt = NONE;
 
         private int error = NO_ERROR;
-        private final Scanner scanner = new Scanner();
+        private final Tokens tokens = new Tokens();
         private final VisitExpression visit = new VisitExpression();
         private boolean crossSeen = false;
         private boolean gapSeen = false;
@@ -1173,9 +1173,9 @@ public final class CensusWalk {
             visitSeen = false;
             error = NO_ERROR;
             errorAt = NONE;
-            scanner.begin(text, length);
+            tokens.begin(text, length);
             boolean right = header();
-            for (int i = 0; i < MAX_TEXT && right && scanner.kind != Scanner.END; i++) {
+            for (int i = 0; i < MAX_TEXT && right && tokens.kind != Tokens.END; i++) {
                 right = statement() && expect(';');
             }
             if (right) {
@@ -1185,10 +1185,10 @@ public final class CensusWalk {
         }
 
         private boolean header() {
-            if (!scanner.isWord("town")) {
+            if (!tokens.isWord("town")) {
                 return fail(SYNTAX_ERROR);
             }
-            scanner.advance();
+            tokens.advance();
             int crossings = number(1, MAX_CROSSINGS);
             if (crossings == NONE) {
                 return false;
@@ -1198,30 +1198,30 @@ public final class CensusWalk {
         }
 
         private boolean statement() {
-            if (scanner.isWord("street")) {
+            if (tokens.isWord("street")) {
                 return street();
             }
-            if (scanner.isWord("house")) {
+            if (tokens.isWord("house")) {
                 return house();
             }
-            if (scanner.isWord("walker")) {
+            if (tokens.isWord("walker")) {
                 return walker();
             }
-            if (scanner.isWord("cross") && !crossSeen) {
+            if (tokens.isWord("cross") && !crossSeen) {
                 crossSeen = true;
-                scanner.advance();
+                tokens.advance();
                 town.crossingTime = number(0, MAX_CROSSING_TIME);
                 return town.crossingTime != NONE;
             }
-            if (scanner.isWord("gap") && !gapSeen) {
+            if (tokens.isWord("gap") && !gapSeen) {
                 gapSeen = true;
-                scanner.advance();
+                tokens.advance();
                 town.gap = number(0, MAX_GAP);
                 return town.gap != NONE;
             }
-            if (scanner.isWord("visit") && !visitSeen) {
+            if (tokens.isWord("visit") && !visitSeen) {
                 visitSeen = true;
-                scanner.advance();
+                tokens.advance();
                 return sum(0);
             }
             return fail(SYNTAX_ERROR);
@@ -1231,12 +1231,12 @@ public final class CensusWalk {
             if (town.streets.count >= MAX_STREETS) {
                 return fail(TOO_MANY);
             }
-            scanner.advance();
+            tokens.advance();
             int start = number(0, town.crossings - 1);
             if (start == NONE) {
                 return false;
             }
-            if (scanner.kind == Scanner.NUMBER && scanner.value == start) {
+            if (tokens.kind == Tokens.NUMBER && tokens.value == start) {
                 return fail(OUT_OF_RANGE);
             }
             int end = number(0, town.crossings - 1);
@@ -1254,7 +1254,7 @@ public final class CensusWalk {
             if (house >= MAX_HOUSES) {
                 return fail(TOO_MANY);
             }
-            scanner.advance();
+            tokens.advance();
             int street = number(0, town.streets.count - 1);
             if (!town.streets.has(street)) {
                 return false;
@@ -1273,10 +1273,10 @@ public final class CensusWalk {
             houses.persons[house] = persons;
             houses.from[house] = from;
             houses.to[house] = to;
-            houses.dog[house] = scanner.isWord("dog");
+            houses.dog[house] = tokens.isWord("dog");
             houses.count = house + 1;
             if (houses.dog[house]) {
-                scanner.advance();
+                tokens.advance();
             }
             return true;
         }
@@ -1285,7 +1285,7 @@ public final class CensusWalk {
             if (town.walkers.count >= MAX_WALKERS) {
                 return fail(TOO_MANY);
             }
-            scanner.advance();
+            tokens.advance();
             int crossing = number(0, town.crossings - 1);
             int time = crossing == NONE ? NONE : number(0, DAY);
             if (time == NONE) {
@@ -1299,9 +1299,9 @@ public final class CensusWalk {
             if (!term(depth)) {
                 return false;
             }
-            for (int i = 0; i < MAX_TEXT && (scanner.isSign('+') || scanner.isSign('-')); i++) {
-                int code = scanner.isSign('+') ? VisitExpression.PLUS : VisitExpression.MINUS;
-                scanner.advance();
+            for (int i = 0; i < MAX_TEXT && (tokens.isSign('+') || tokens.isSign('-')); i++) {
+                int code = tokens.isSign('+') ? VisitExpression.PLUS : VisitExpression.MINUS;
+                tokens.advance();
                 if (!term(depth)) {
                     return false;
                 }
@@ -1314,9 +1314,9 @@ public final class CensusWalk {
             if (!factor(depth)) {
                 return false;
             }
-            for (int i = 0; i < MAX_TEXT && (scanner.isSign('*') || scanner.isSign('/')); i++) {
-                int code = scanner.isSign('*') ? VisitExpression.TIMES : VisitExpression.DIVIDED;
-                scanner.advance();
+            for (int i = 0; i < MAX_TEXT && (tokens.isSign('*') || tokens.isSign('/')); i++) {
+                int code = tokens.isSign('*') ? VisitExpression.TIMES : VisitExpression.DIVIDED;
+                tokens.advance();
                 if (!factor(depth)) {
                     return false;
                 }
@@ -1326,40 +1326,40 @@ public final class CensusWalk {
         }
 
         private boolean factor(int depth) {
-            if (scanner.isSign('(')) {
+            if (tokens.isSign('(')) {
                 if (depth >= MAX_DEPTH) {
                     return fail(TOO_DEEP);
                 }
-                scanner.advance();
+                tokens.advance();
                 return sum(depth + 1) && expect(')');
             }
-            if (scanner.isWord("persons")) {
+            if (tokens.isWord("persons")) {
                 visit.add(VisitExpression.PERSONS);
-            } else if (scanner.isWord("dog")) {
+            } else if (tokens.isWord("dog")) {
                 visit.add(VisitExpression.DOG);
-            } else if (scanner.isWord("call")) {
+            } else if (tokens.isWord("call")) {
                 visit.add(VisitExpression.CALL);
-            } else if (scanner.kind == Scanner.NUMBER && scanner.value <= MAX_FACTOR) {
-                visit.add(scanner.value);
+            } else if (tokens.kind == Tokens.NUMBER && tokens.value <= MAX_FACTOR) {
+                visit.add(tokens.value);
             } else {
-                return fail(scanner.kind == Scanner.NUMBER ? OUT_OF_RANGE : SYNTAX_ERROR);
+                return fail(tokens.kind == Tokens.NUMBER ? OUT_OF_RANGE : SYNTAX_ERROR);
             }
-            scanner.advance();
+            tokens.advance();
             return true;
         }
 
         private boolean expect(char sign) {
-            if (!scanner.isSign(sign)) {
+            if (!tokens.isSign(sign)) {
                 return fail(SYNTAX_ERROR);
             }
-            scanner.advance();
+            tokens.advance();
             return true;
         }
 
         /** NONE, with the error noted, if the next token is not a number in the range. */
         private int number(int least, int greatest) {
-            int value = scanner.value;
-            if (scanner.kind != Scanner.NUMBER) {
+            int value = tokens.value;
+            if (tokens.kind != Tokens.NUMBER) {
                 fail(SYNTAX_ERROR);
                 return NONE;
             }
@@ -1367,13 +1367,13 @@ public final class CensusWalk {
                 fail(OUT_OF_RANGE);
                 return NONE;
             }
-            scanner.advance();
+            tokens.advance();
             return value;
         }
 
         private boolean fail(int code) {
             error = code;
-            errorAt = scanner.start;
+            errorAt = tokens.start;
             return false;
         }
     }
