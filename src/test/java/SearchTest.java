@@ -14,6 +14,7 @@ public final class SearchTest {
         wrongSets();
         eightHouses();
         plansDoNotMatter();
+        otherWays();
         Check.end();
     }
 
@@ -227,5 +228,28 @@ public final class SearchTest {
         walk.soonestOrder(0, 7, 0);
         Check.same("searching changes nothing", walk.checksum(), before);
         Check.same("searching is no change", walk.undo(), 3);
+    }
+
+    /** Closing street 1 leaves both houses open, but walker 0 comes from the other side then, and later. */
+    private static void otherWays() {
+        String text = "town 3;street 0 1 10;street 2 1 1;street 2 0 30;house 0 1 0 1 0 1440;house 0 9 0 1 0 1440;walker 2 50;walker 0 59;";
+        CensusWalk order = Check.town(text);
+        order(order, 0, 3, 1, 0);
+        order.setOpen(1, false);
+        order(order, 0, 3, 0, 1);
+        CensusWalk soonest = Check.town(text);
+        Check.same("soonest(0, 2)", soonest.soonest(0, 2), 62);
+        soonest.setOpen(1, false);
+        Check.same("soonest(0, 2)", soonest.soonest(0, 2), 99);
+        CensusWalk division = Check.town(text);
+        Check.same("division(2)", division.division(2), 62);
+        division.setOpen(1, false);
+        Check.same("division(2)", division.division(2), 78);
+        CensusWalk walker = Check.town(text);
+        Check.same("walkerOf(2, 1)", walker.walkerOf(2, 1), 0);
+        walker.setOpen(1, false);
+        Check.same("walkerOf(2, 1)", walker.walkerOf(2, 1), 1);
+        walker.undo();
+        Check.same("walkerOf(2, 1)", walker.walkerOf(2, 1), 0);
     }
 }
