@@ -2,15 +2,25 @@
 final class Check {
     private static int checks = 0;
     private static int wrong = 0;
+    private static String about = "";
 
     private Check() {
+    }
+
+    /** Stands before all that is told as wrong from here on. */
+    static void about(String subject) {
+        about = subject;
+    }
+
+    static int count() {
+        return checks;
     }
 
     static void same(String what, long got, long due) {
         checks++;
         if (got != due) {
             wrong++;
-            System.out.println(what + " answered " + got + ", due is " + due);
+            System.out.println(about + what + " answered " + got + ", due is " + due);
         }
     }
 
@@ -38,12 +48,12 @@ final class Check {
         } catch (RuntimeException e) {
             if (e.getClass() != due) {
                 wrong++;
-                System.out.println(what + " threw " + e + ", due is " + due.getName());
+                System.out.println(about + what + " threw " + e + ", due is " + due.getName());
             }
             return;
         }
         wrong++;
-        System.out.println(what + " threw nothing, due is " + due.getName());
+        System.out.println(about + what + " threw nothing, due is " + due.getName());
     }
 
     static void append(CensusWalk walk, String text) {
@@ -65,6 +75,31 @@ final class Check {
             same("load of " + text + " at " + walk.errorOffset(), code, walk.houseCount());
         }
         return walk;
+    }
+
+    static void right(String text, int houses) {
+        CensusWalk walk = new CensusWalk();
+        same("load of " + text, load(walk, text), houses);
+        same("errorOffset() of " + text, walk.errorOffset(), -1);
+    }
+
+    static void wrong(String text, int code, int offset) {
+        CensusWalk walk = new CensusWalk();
+        same("load of " + text, load(walk, text), code);
+        same("errorOffset() of " + text, walk.errorOffset(), offset);
+        same("crossings after " + text, walk.crossingCount(), 0);
+        same("undo() after " + text, walk.undo(), -1);
+    }
+
+    /** The mark ^ stands before the byte at which the error is told, and is not in the text itself. */
+    static void wrong(String marked, int code) {
+        int offset = marked.indexOf('^');
+        wrong(marked.substring(0, offset) + marked.substring(offset + 1), code, offset);
+    }
+
+    static void row(CensusWalk walk, int walker, int k, int result, int arrival) {
+        same("result(" + walker + ", " + k + ")", walk.result(walker, k), result);
+        same("arrival(" + walker + ", " + k + ")", walk.arrival(walker, k), arrival);
     }
 
     private static int word(String text, int at) {

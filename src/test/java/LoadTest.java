@@ -122,152 +122,138 @@ public final class LoadTest {
         Check.same("errorOffset() after undo", walk.errorOffset(), 0);
     }
 
-    private static void right(String text, int houses) {
-        CensusWalk walk = new CensusWalk();
-        Check.same("load of " + text, Check.load(walk, text), houses);
-        Check.same("errorOffset() of " + text, walk.errorOffset(), -1);
-    }
-
-    private static void wrong(String text, int code, int offset) {
-        CensusWalk walk = new CensusWalk();
-        Check.same("load of " + text, Check.load(walk, text), code);
-        Check.same("errorOffset() of " + text, walk.errorOffset(), offset);
-        Check.same("crossings after " + text, walk.crossingCount(), 0);
-        Check.same("undo() after " + text, walk.undo(), -1);
-    }
-
     private static void rightTexts() {
-        right("town1;", 0);
-        right("   town   10   ;   ", 0);
-        right("town 010;", 0);
-        right("town 00000000000000000000000001;", 0);
-        right("town 2;street0 1 1;street 1 0 99;", 0);
-        right(STREET + "house 0 0 0 0 0 1;", 1);
-        right(STREET + "house 0 9 1 20 1439 1440dog;", 1);
-        right(STREET + "house 0 9 1 20 0 1440 dog ;walker 1 1440;walker 0 0;walker 0 0;", 1);
-        right(STREET + "cross 0;gap 0;visit 0;", 0);
-        right(STREET + "cross 9;gap 600;visit 9999;", 0);
-        right("town 2;visit((((1))))+((((2))))*(((persons)-dog)/call);street 0 1 1;", 0);
-        right("town 1;visit 1+2-3*4/5;gap 5;cross 5;walker 0 7;", 0);
+        Check.right("town1;", 0);
+        Check.right("   town   10   ;   ", 0);
+        Check.right("town 010;", 0);
+        Check.right("town 00000000000000000000000001;", 0);
+        Check.right("town 2;street0 1 1;street 1 0 99;", 0);
+        Check.right(STREET + "house 0 0 0 0 0 1;", 1);
+        Check.right(STREET + "house 0 9 1 20 1439 1440dog;", 1);
+        Check.right(STREET + "house 0 9 1 20 0 1440 dog ;walker 1 1440;walker 0 0;walker 0 0;", 1);
+        Check.right(STREET + "cross 0;gap 0;visit 0;", 0);
+        Check.right(STREET + "cross 9;gap 600;visit 9999;", 0);
+        Check.right("town 2;visit((((1))))+((((2))))*(((persons)-dog)/call);street 0 1 1;", 0);
+        Check.right("town 1;visit 1+2-3*4/5;gap 5;cross 5;walker 0 7;", 0);
     }
 
     private static void syntaxErrors() {
-        wrong("", SYNTAX, 0);
-        wrong("   ", SYNTAX, 3);
-        wrong("tow 1;", SYNTAX, 0);
-        wrong("  towns 1;", SYNTAX, 2);
-        wrong("Town 1;", SYNTAX, 0);
-        wrong(" ;", SYNTAX, 1);
-        wrong("5", SYNTAX, 0);
-        wrong("town", SYNTAX, 4);
-        wrong("town  ", SYNTAX, 6);
-        wrong("town 2 ", SYNTAX, 7);
-        wrong("town 2 3;", SYNTAX, 7);
-        wrong("town -1;", SYNTAX, 5);
-        wrong("town two;", SYNTAX, 5);
-        wrong("town 2;;", SYNTAX, 7);
-        wrong("town 2; ;", SYNTAX, 8);
-        wrong("town 2;town 2;", SYNTAX, 7);
-        wrong("town 2;dog;", SYNTAX, 7);
-        wrong("town 2;\nstreet 0 1 9;", SYNTAX, 7);
-        wrong("town\t2;", SYNTAX, 4);
-        wrong("town 2\u00a0;", SYNTAX, 6);
-        wrong("town 2;\u0000", SYNTAX, 7);
-        wrong("town 2;street 0 1 9", SYNTAX, 19);
-        wrong("town 2;street 0 1;", SYNTAX, 17);
-        wrong("town 2;street 0 1 9 9;", SYNTAX, 20);
-        wrong(STREET + "house 0 1 0 0 0;", SYNTAX, 35);
-        wrong(STREET + "house 0 1 0 0 0 1 dog dog;", SYNTAX, 42);
-        wrong(STREET + "house 0 1 0 0 0 1 dogs;", SYNTAX, 38);
-        wrong(STREET + "house 0 1 0 0 0 1 5;", SYNTAX, 38);
-        wrong("town 2;walker 0;", SYNTAX, 15);
-        wrong("town 2;walker 0 0 dog;", SYNTAX, 18);
-        wrong("town 2;cross;", SYNTAX, 12);
-        wrong("town 2;cross 1;cross 1;", SYNTAX, 15);
-        wrong("town 2;cross 0;gap 1;  cross 10;", SYNTAX, 23);
-        wrong("town 2;gap 1;gap 1;", SYNTAX, 13);
-        wrong("town 2;visit 1;visit 1;", SYNTAX, 15);
-        wrong("town 2;visit ;", SYNTAX, 13);
-        wrong("town 2;visit 1", SYNTAX, 14);
-        wrong("town 2;visit -1;", SYNTAX, 13);
-        wrong("town 2;visit 1+;", SYNTAX, 15);
-        wrong("town 2;visit 1 2;", SYNTAX, 15);
-        wrong("town 2;visit 1**2;", SYNTAX, 15);
-        wrong("town 2;visit ();", SYNTAX, 14);
-        wrong("town 2;visit (1;", SYNTAX, 15);
-        wrong("town 2;visit 1);", SYNTAX, 14);
-        wrong("town 2;visit personsdog;", SYNTAX, 13);
-        wrong("town 2;visit 2persons;", SYNTAX, 14);
-        wrong("town 2;visit 1%2;", SYNTAX, 14);
-        wrong("zown 2;", SYNTAX, 0);
-        wrong("townz 2;", SYNTAX, 0);
-        wrong("town 2;xtreet 0 1 9;", SYNTAX, 7);
-        wrong("town 2;gapz 5;", SYNTAX, 7);
-        wrong("town 2;visit calls;", SYNTAX, 13);
-        wrong("town 2;visit `;", SYNTAX, 13);
-        wrong("town 2;visit dog{;", SYNTAX, 16);
-        wrong("town 2;visit 1/:;", SYNTAX, 15);
+        Check.wrong("", SYNTAX, 0);
+        Check.wrong("   ", SYNTAX, 3);
+        Check.wrong("tow 1;", SYNTAX, 0);
+        Check.wrong("  towns 1;", SYNTAX, 2);
+        Check.wrong("Town 1;", SYNTAX, 0);
+        Check.wrong(" ;", SYNTAX, 1);
+        Check.wrong("5", SYNTAX, 0);
+        Check.wrong("town", SYNTAX, 4);
+        Check.wrong("town  ", SYNTAX, 6);
+        Check.wrong("town 2 ", SYNTAX, 7);
+        Check.wrong("town 2 3;", SYNTAX, 7);
+        Check.wrong("town -1;", SYNTAX, 5);
+        Check.wrong("town two;", SYNTAX, 5);
+        Check.wrong("town 2;;", SYNTAX, 7);
+        Check.wrong("town 2; ;", SYNTAX, 8);
+        Check.wrong("town 2;town 2;", SYNTAX, 7);
+        Check.wrong("town 2;dog;", SYNTAX, 7);
+        Check.wrong("town 2;\nstreet 0 1 9;", SYNTAX, 7);
+        Check.wrong("town\t2;", SYNTAX, 4);
+        Check.wrong("town 2\u00a0;", SYNTAX, 6);
+        Check.wrong("town 2;\u0000", SYNTAX, 7);
+        Check.wrong("town 2;street 0 1 9", SYNTAX, 19);
+        Check.wrong("town 2;street 0 1;", SYNTAX, 17);
+        Check.wrong("town 2;street 0 1 9 9;", SYNTAX, 20);
+        Check.wrong(STREET + "house 0 1 0 0 0;", SYNTAX, 35);
+        Check.wrong(STREET + "house 0 1 0 0 0 1 dog dog;", SYNTAX, 42);
+        Check.wrong(STREET + "house 0 1 0 0 0 1 dogs;", SYNTAX, 38);
+        Check.wrong(STREET + "house 0 1 0 0 0 1 5;", SYNTAX, 38);
+        Check.wrong("town 2;walker 0;", SYNTAX, 15);
+        Check.wrong("town 2;walker 0 0 dog;", SYNTAX, 18);
+        Check.wrong("town 2;cross;", SYNTAX, 12);
+        Check.wrong("town 2;cross 1;cross 1;", SYNTAX, 15);
+        Check.wrong("town 2;cross 0;gap 1;  cross 10;", SYNTAX, 23);
+        Check.wrong("town 2;gap 1;gap 1;", SYNTAX, 13);
+        Check.wrong("town 2;visit 1;visit 1;", SYNTAX, 15);
+        Check.wrong("town 2;visit ;", SYNTAX, 13);
+        Check.wrong("town 2;visit 1", SYNTAX, 14);
+        Check.wrong("town 2;visit -1;", SYNTAX, 13);
+        Check.wrong("town 2;visit 1+;", SYNTAX, 15);
+        Check.wrong("town 2;visit 1 2;", SYNTAX, 15);
+        Check.wrong("town 2;visit 1**2;", SYNTAX, 15);
+        Check.wrong("town 2;visit ();", SYNTAX, 14);
+        Check.wrong("town 2;visit (1;", SYNTAX, 15);
+        Check.wrong("town 2;visit 1);", SYNTAX, 14);
+        Check.wrong("town 2;visit personsdog;", SYNTAX, 13);
+        Check.wrong("town 2;visit 2persons;", SYNTAX, 14);
+        Check.wrong("town 2;visit 1%2;", SYNTAX, 14);
+        Check.wrong("zown 2;", SYNTAX, 0);
+        Check.wrong("townz 2;", SYNTAX, 0);
+        Check.wrong("town 2;xtreet 0 1 9;", SYNTAX, 7);
+        Check.wrong("town 2;gapz 5;", SYNTAX, 7);
+        Check.wrong("town 2;visit calls;", SYNTAX, 13);
+        Check.wrong("town 2;visit `;", SYNTAX, 13);
+        Check.wrong("town 2;visit dog{;", SYNTAX, 16);
+        Check.wrong("town 2;visit 1/:;", SYNTAX, 15);
     }
 
     private static void rangeErrors() {
-        wrong("town 0;", RANGE, 5);
-        wrong("town   11;", RANGE, 7);
-        wrong("town 99999999999999999999999999999;", RANGE, 5);
-        wrong("town 4294967297;", RANGE, 5);
-        wrong("town 2;street 2 0 1;", RANGE, 14);
-        wrong("town 2;street 0 2 1;", RANGE, 16);
-        wrong("town 2;street 1 01 1;", RANGE, 16);
-        wrong("town 1;street 0 0 1;", RANGE, 16);
-        wrong("town 2;street 0 1 0;", RANGE, 18);
-        wrong("town 2;street 0 1 100;", RANGE, 18);
-        wrong("town 2;house 0 0 0 0 0 1;street 0 1 9;", RANGE, 13);
-        wrong(STREET + "house 1 0 0 0 0 1;", RANGE, 26);
-        wrong(STREET + "house 0 10 0 0 0 1;", RANGE, 28);
-        wrong(STREET + "house 0 0 2 0 0 1;", RANGE, 30);
-        wrong(STREET + "house 0 0 0 21 0 1;", RANGE, 32);
-        wrong(STREET + "house 0 0 0 0 1440 1441;", RANGE, 34);
-        wrong(STREET + "house 0 0 0 0 1439 1441;", RANGE, 39);
-        wrong(STREET + "house 0 0 0 0 7 7;", RANGE, 36);
-        wrong(STREET + "house 0 0 0 0 7 6;", RANGE, 36);
-        wrong(STREET + "house 0 0 0 0 0 0;", RANGE, 36);
-        wrong("town 2;walker 2 0;", RANGE, 14);
-        wrong("town 2;walker 1 1441;", RANGE, 16);
-        wrong("town 2;cross 10;", RANGE, 13);
-        wrong("town 2;gap 601;", RANGE, 11);
-        wrong("town 2;visit 10000;", RANGE, 13);
-        wrong("town 2;visit 1+2*(3-100000);", RANGE, 20);
+        Check.wrong("town 0;", RANGE, 5);
+        Check.wrong("town   11;", RANGE, 7);
+        Check.wrong("town 99999999999999999999999999999;", RANGE, 5);
+        Check.wrong("town 4294967297;", RANGE, 5);
+        Check.wrong("town 2;street 2 0 1;", RANGE, 14);
+        Check.wrong("town 2;street 0 2 1;", RANGE, 16);
+        Check.wrong("town 2;street 1 01 1;", RANGE, 16);
+        Check.wrong("town 1;street 0 0 1;", RANGE, 16);
+        Check.wrong("town 2;street 0 1 0;", RANGE, 18);
+        Check.wrong("town 2;street 0 1 100;", RANGE, 18);
+        Check.wrong("town 2;house 0 0 0 0 0 1;street 0 1 9;", RANGE, 13);
+        Check.wrong(STREET + "house 1 0 0 0 0 1;", RANGE, 26);
+        Check.wrong(STREET + "house 0 10 0 0 0 1;", RANGE, 28);
+        Check.wrong(STREET + "house 0 0 2 0 0 1;", RANGE, 30);
+        Check.wrong(STREET + "house 0 0 0 21 0 1;", RANGE, 32);
+        Check.wrong(STREET + "house 0 0 0 0 1440 1441;", RANGE, 34);
+        Check.wrong(STREET + "house 0 0 0 0 1439 1441;", RANGE, 39);
+        Check.wrong(STREET + "house 0 0 0 0 7 7;", RANGE, 36);
+        Check.wrong(STREET + "house 0 0 0 0 7 6;", RANGE, 36);
+        Check.wrong(STREET + "house 0 0 0 0 0 0;", RANGE, 36);
+        Check.wrong("town 2;walker 2 0;", RANGE, 14);
+        Check.wrong("town 2;walker 1 1441;", RANGE, 16);
+        Check.wrong("town 2;cross 10;", RANGE, 13);
+        Check.wrong("town 2;gap 601;", RANGE, 11);
+        Check.wrong("town 2;visit 10000;", RANGE, 13);
+        Check.wrong("town 2;visit 1+2*(3-100000);", RANGE, 20);
     }
 
     private static void tooMany() {
         String streets = "town 2;" + "street 0 1 9;".repeat(12);
-        right(streets, 0);
-        wrong(streets + " street 0 1 9;", MANY, streets.length() + 1);
-        wrong(streets + "street x", MANY, streets.length());
-        wrong(streets + "streets 0 1 9;", SYNTAX, streets.length());
+        Check.right(streets, 0);
+        Check.wrong(streets + " street 0 1 9;", MANY, streets.length() + 1);
+        Check.wrong(streets + "street x", MANY, streets.length());
+        Check.wrong(streets + "streets 0 1 9;", SYNTAX, streets.length());
         String houses = STREET + "house 0 1 0 0 0 1;".repeat(16);
-        right(houses, 16);
-        wrong(houses + "house 0 1 0 0 0 1;", MANY, houses.length());
-        wrong(houses + "house 7", MANY, houses.length());
+        Check.right(houses, 16);
+        Check.wrong(houses + "house 0 1 0 0 0 1;", MANY, houses.length());
+        Check.wrong(houses + "house 7", MANY, houses.length());
         String walkers = "town 2;" + "walker 0 0;".repeat(3);
-        right(walkers, 0);
-        wrong(walkers + "  walker 0 0;", MANY, walkers.length() + 2);
-        wrong(walkers + "walker", MANY, walkers.length());
+        Check.right(walkers, 0);
+        Check.wrong(walkers + "  walker 0 0;", MANY, walkers.length() + 2);
+        Check.wrong(walkers + "walker", MANY, walkers.length());
     }
 
     private static void tooDeep() {
-        wrong("town 2;visit (((((1)))));", DEEP, 17);
-        wrong("town 2;visit ((((", SYNTAX, 17);
-        wrong("town 2;visit (((( (x", DEEP, 18);
-        wrong("town 2;visit ((((1(", SYNTAX, 18);
-        wrong("town 2;visit ((((1))))+1*((((2+(3)))));", DEEP, 31);
+        Check.wrong("town 2;visit (((((1)))));", DEEP, 17);
+        Check.wrong("town 2;visit ((((", SYNTAX, 17);
+        Check.wrong("town 2;visit (((( (x", DEEP, 18);
+        Check.wrong("town 2;visit ((((1(", SYNTAX, 18);
+        Check.wrong("town 2;visit ((((1))))+1*((((2+(3)))));", DEEP, 31);
     }
 
     private static void firstError() {
-        wrong("town 0;street 0 0 0", RANGE, 5);
-        wrong("town 2;walker 9 !", RANGE, 14);
-        wrong("town 2;walker 0 ! 9", SYNTAX, 16);
-        wrong("town 2;visit 10000 (((((", RANGE, 13);
-        wrong("town 2;visit (((((10000", DEEP, 17);
+        Check.wrong("town 0;street 0 0 0", RANGE, 5);
+        Check.wrong("town 2;walker 9 !", RANGE, 14);
+        Check.wrong("town 2;walker 0 ! 9", SYNTAX, 16);
+        Check.wrong("town 2;visit 10000 (((((", RANGE, 13);
+        Check.wrong("town 2;visit (((((10000", DEEP, 17);
     }
 
     private static void longestText() {

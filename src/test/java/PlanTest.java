@@ -22,11 +22,6 @@ public final class PlanTest {
         Check.end();
     }
 
-    private static void row(CensusWalk walk, int walker, int k, int result, int arrival) {
-        Check.same("result(" + walker + ", " + k + ")", walk.result(walker, k), result);
-        Check.same("arrival(" + walker + ", " + k + ")", walk.arrival(walker, k), arrival);
-    }
-
     private static void plans() {
         CensusWalk walk = Check.town(THREE + "walker 0 90;walker 2 50;");
         Check.same("plan(0, 2)", walk.plan(0, 2), 1);
@@ -111,10 +106,10 @@ public final class PlanTest {
         for (int house : new int[] {0, 1, 2, 1}) {
             walk.plan(0, house);
         }
-        row(walk, 0, 0, CensusWalk.ANSWERED, 94);
-        row(walk, 0, 1, CensusWalk.ANSWERED, 112);
-        row(walk, 0, 2, CensusWalk.ANSWERED, 134);
-        row(walk, 0, 3, CensusWalk.DONE, 155);
+        Check.row(walk, 0, 0, CensusWalk.ANSWERED, 94);
+        Check.row(walk, 0, 1, CensusWalk.ANSWERED, 112);
+        Check.row(walk, 0, 2, CensusWalk.ANSWERED, 134);
+        Check.row(walk, 0, 3, CensusWalk.DONE, 155);
         Check.same("finish(0)", walk.finish(0), 155);
         Check.same("finishAll()", walk.finishAll(), 155);
         Check.same("counted()", walk.counted(), 7);
@@ -128,19 +123,19 @@ public final class PlanTest {
         for (int house : new int[] {0, 0, 1, 0, 0, 1}) {
             walk.plan(0, house);
         }
-        row(walk, 0, 0, CensusWalk.UNANSWERED, 50);
-        row(walk, 0, 1, CensusWalk.REFUSED, 51);
-        row(walk, 0, 2, CensusWalk.ANSWERED, 61);
-        row(walk, 0, 3, CensusWalk.ANSWERED, 111);
-        row(walk, 0, 4, CensusWalk.DONE, 191);
-        row(walk, 0, 5, CensusWalk.DONE, 201);
+        Check.row(walk, 0, 0, CensusWalk.UNANSWERED, 50);
+        Check.row(walk, 0, 1, CensusWalk.REFUSED, 51);
+        Check.row(walk, 0, 2, CensusWalk.ANSWERED, 61);
+        Check.row(walk, 0, 3, CensusWalk.ANSWERED, 111);
+        Check.row(walk, 0, 4, CensusWalk.DONE, 191);
+        Check.row(walk, 0, 5, CensusWalk.DONE, 201);
         Check.same("the second call is longer", walk.finish(0), 201);
         Check.same("calls(0)", walk.calls(0), 2);
         Check.same("calls(1)", walk.calls(1), 1);
         Check.same("persons()", walk.persons(), 12);
         Check.same("setHours(0, 200, 300)", walk.setHours(0, 200, 300), 1);
-        row(walk, 0, 3, CensusWalk.UNANSWERED, 111);
-        row(walk, 0, 4, CensusWalk.REFUSED, 112);
+        Check.row(walk, 0, 3, CensusWalk.UNANSWERED, 111);
+        Check.row(walk, 0, 4, CensusWalk.REFUSED, 112);
         Check.same("counted()", walk.counted(), 2);
         Check.same("persons()", walk.persons(), 7);
         Check.same("calls(0)", walk.calls(0), 2);
@@ -157,22 +152,22 @@ public final class PlanTest {
             walk.plan(0, 0);
             walk.plan(0, 1);
             walk.plan(0, 0);
-            row(walk, 0, 2, due[i], 62);
+            Check.row(walk, 0, 2, due[i], 62);
             Check.same("calls(0)", walk.calls(0), due[i] == CensusWalk.REFUSED ? 1 : 2);
         }
         CensusWalk none = Check.town("town 2;street 0 1 10;house 0 0 0 5 0 10;walker 0 50;walker 0 50;walker 0 50;gap 0;");
         none.plan(0, 0);
         none.plan(1, 0);
         none.plan(2, 0);
-        row(none, 0, 0, CensusWalk.UNANSWERED, 50);
-        row(none, 1, 0, CensusWalk.UNANSWERED, 50);
-        row(none, 2, 0, CensusWalk.REFUSED, 50);
+        Check.row(none, 0, 0, CensusWalk.UNANSWERED, 50);
+        Check.row(none, 1, 0, CensusWalk.UNANSWERED, 50);
+        Check.row(none, 2, 0, CensusWalk.REFUSED, 50);
         CensusWalk sixty = Check.town("town 2;street 0 1 99;house 0 0 0 5 0 10;walker 0 50;walker 0 109;walker 0 110;");
         sixty.plan(0, 0);
         sixty.plan(1, 0);
         sixty.plan(2, 0);
-        row(sixty, 1, 0, CensusWalk.REFUSED, 109);
-        row(sixty, 2, 0, CensusWalk.UNANSWERED, 110);
+        Check.row(sixty, 1, 0, CensusWalk.REFUSED, 109);
+        Check.row(sixty, 2, 0, CensusWalk.UNANSWERED, 110);
     }
 
     private static void twoWalkers() {
@@ -183,12 +178,12 @@ public final class PlanTest {
         walk.plan(1, 1);
         walk.plan(1, 0);
         walk.plan(1, 2);
-        row(walk, 0, 0, CensusWalk.ANSWERED, 55);
-        row(walk, 1, 0, CensusWalk.ANSWERED, 57);
-        row(walk, 0, 1, CensusWalk.DONE, 68);
-        row(walk, 1, 1, CensusWalk.DONE, 70);
-        row(walk, 0, 2, CensusWalk.UNANSWERED, 73);
-        row(walk, 1, 2, CensusWalk.REFUSED, 75);
+        Check.row(walk, 0, 0, CensusWalk.ANSWERED, 55);
+        Check.row(walk, 1, 0, CensusWalk.ANSWERED, 57);
+        Check.row(walk, 0, 1, CensusWalk.DONE, 68);
+        Check.row(walk, 1, 1, CensusWalk.DONE, 70);
+        Check.row(walk, 0, 2, CensusWalk.UNANSWERED, 73);
+        Check.row(walk, 1, 2, CensusWalk.REFUSED, 75);
         Check.same("finish(0)", walk.finish(0), 74);
         Check.same("finish(1)", walk.finish(1), 75);
         Check.same("finish(2)", walk.finish(2), 700);
@@ -201,11 +196,11 @@ public final class PlanTest {
         CensusWalk walk = Check.town("town 2;street 0 1 10;house 0 5 0 1 0 1440;walker 0 50;walker 1 50;walker 0 49;");
         walk.plan(1, 0);
         walk.plan(0, 0);
-        row(walk, 0, 0, CensusWalk.ANSWERED, 55);
-        row(walk, 1, 0, CensusWalk.DONE, 55);
+        Check.row(walk, 0, 0, CensusWalk.ANSWERED, 55);
+        Check.row(walk, 1, 0, CensusWalk.DONE, 55);
         walk.plan(2, 0);
-        row(walk, 0, 0, CensusWalk.DONE, 55);
-        row(walk, 2, 0, CensusWalk.ANSWERED, 54);
+        Check.row(walk, 0, 0, CensusWalk.DONE, 55);
+        Check.row(walk, 2, 0, CensusWalk.ANSWERED, 54);
         Check.same("finish(2)", walk.finish(2), 64);
         Check.same("finish(0)", walk.finish(0), 55);
     }
@@ -215,17 +210,17 @@ public final class PlanTest {
         for (int house : new int[] {1, 0, 1, 2, 1}) {
             walk.plan(0, house);
         }
-        row(walk, 0, 0, CensusWalk.UNREACHABLE, 50);
-        row(walk, 0, 1, CensusWalk.ANSWERED, 54);
-        row(walk, 0, 2, CensusWalk.UNREACHABLE, 59);
-        row(walk, 0, 3, CensusWalk.ANSWERED, 63);
-        row(walk, 0, 4, CensusWalk.UNREACHABLE, 68);
+        Check.row(walk, 0, 0, CensusWalk.UNREACHABLE, 50);
+        Check.row(walk, 0, 1, CensusWalk.ANSWERED, 54);
+        Check.row(walk, 0, 2, CensusWalk.UNREACHABLE, 59);
+        Check.row(walk, 0, 3, CensusWalk.ANSWERED, 63);
+        Check.row(walk, 0, 4, CensusWalk.UNREACHABLE, 68);
         Check.same("finish(0)", walk.finish(0), 68);
         Check.same("calls(1)", walk.calls(1), 0);
         Check.same("counted()", walk.counted(), 5);
         Check.same("setOpen(0, false)", walk.setOpen(0, false), true);
-        row(walk, 0, 1, CensusWalk.UNREACHABLE, 50);
-        row(walk, 0, 3, CensusWalk.ANSWERED, 50);
+        Check.row(walk, 0, 1, CensusWalk.UNREACHABLE, 50);
+        Check.row(walk, 0, 3, CensusWalk.ANSWERED, 50);
         Check.same("finish(0)", walk.finish(0), 55);
     }
 
@@ -264,11 +259,11 @@ public final class PlanTest {
         walk.plan(1, 2);
         walk.plan(1, 2);
         walk.plan(1, 2);
-        row(walk, 0, 0, CensusWalk.ANSWERED, 1439);
-        row(walk, 0, 1, CensusWalk.UNANSWERED, 1778);
-        row(walk, 1, 0, CensusWalk.UNANSWERED, 1490);
-        row(walk, 1, 1, CensusWalk.UNANSWERED, 1491);
-        row(walk, 1, 2, CensusWalk.REFUSED, 1492);
+        Check.row(walk, 0, 0, CensusWalk.ANSWERED, 1439);
+        Check.row(walk, 0, 1, CensusWalk.UNANSWERED, 1778);
+        Check.row(walk, 1, 0, CensusWalk.UNANSWERED, 1490);
+        Check.row(walk, 1, 1, CensusWalk.UNANSWERED, 1491);
+        Check.row(walk, 1, 2, CensusWalk.REFUSED, 1492);
         Check.same("finishAll()", walk.finishAll(), 1779);
     }
 
@@ -277,22 +272,22 @@ public final class PlanTest {
         CensusWalk walk = Check.town("town 2;street 0 1 50;house 0 20 0 1 0 1440;walker 0 50;walker 1 30;walker 0 49;");
         walk.plan(0, 0);
         walk.plan(1, 0);
-        row(walk, 0, 0, CensusWalk.DONE, 70);
-        row(walk, 1, 0, CensusWalk.ANSWERED, 60);
+        Check.row(walk, 0, 0, CensusWalk.DONE, 70);
+        Check.row(walk, 1, 0, CensusWalk.ANSWERED, 60);
         Check.same("setHours(0, 0, 1440)", walk.setHours(0, 0, 1440), 1);
         CensusWalk tie = Check.town("town 4;street 0 1 50;street 2 3 5;house 0 0 0 1 0 1440;house 1 0 0 1 0 1440;walker 0 60;walker 0 60;");
         tie.plan(0, 1);
         tie.plan(0, 1);
         tie.plan(0, 0);
         tie.plan(1, 0);
-        row(tie, 0, 2, CensusWalk.ANSWERED, 60);
-        row(tie, 1, 0, CensusWalk.DONE, 60);
+        Check.row(tie, 0, 2, CensusWalk.ANSWERED, 60);
+        Check.row(tie, 1, 0, CensusWalk.DONE, 60);
         Check.load(tie, "town 4;street 0 1 50;street 2 3 5;house 0 0 0 1 0 1440;house 1 0 0 1 0 1440;walker 0 60;walker 0 60;");
         tie.plan(0, 0);
         tie.plan(1, 1);
         tie.plan(1, 0);
-        row(tie, 0, 0, CensusWalk.ANSWERED, 60);
-        row(tie, 1, 1, CensusWalk.DONE, 60);
+        Check.row(tie, 0, 0, CensusWalk.ANSWERED, 60);
+        Check.row(tie, 1, 1, CensusWalk.DONE, 60);
         Check.load(tie, "town 4;street 0 1 50;street 2 3 5;house 0 0 0 1 0 1440;house 0 1 0 1 0 1440;walker 0 60;walker 0 60;visit 1;");
         tie.plan(0, 0);
         Check.same("finishAll() of a plan of one house", tie.finishAll(), 61);
