@@ -13,14 +13,6 @@ public final class CallBoundaryTest {
         Boundaries.run(CallBoundaryTest.class);
     }
 
-    private static CensusWalk planned(String text, int... walkersAndHouses) {
-        CensusWalk walk = Check.town(text);
-        for (int i = 0; i < walkersAndHouses.length; i += 2) {
-            walk.plan(walkersAndHouses[i], walkersAndHouses[i + 1]);
-        }
-        return walk;
-    }
-
     @Says(in = "Promise 1", value = "Creates an object without a town and with an empty input buffer.")
     static void newObject() {
         CensusWalk walk = new CensusWalk();
@@ -92,11 +84,25 @@ public final class CallBoundaryTest {
         Check.same("load(8), one byte too many", walk.load(8), SYNTAX);
         Check.append(walk, "town 4;xyz");
         Check.same("load(6), one byte too few", walk.load(6), SYNTAX);
+        cut("town 12;", 6, 6);
+        cut("town 2;gap 60;", 12, 12);
+        cut("town;", 3, 0);
+        cut("town 2;gap", 9, 7);
+        cut("town 2;gaps", 10, 10);
+        cut(" ".repeat(894) + "town 2;", 900, 900);
+    }
+
+    /** The end of the read bytes ends a number or a word too, whatever stands behind it in the buffer. */
+    private static void cut(String text, int length, int offset) {
+        CensusWalk walk = new CensusWalk();
+        Check.append(walk, text);
+        Check.same("the first " + length + " bytes of " + text, walk.load(length), SYNTAX);
+        Check.same("errorOffset()", walk.errorOffset(), offset);
     }
 
     @Says(in = "Promise 3", value = "All plans are empty then.")
     static void plansAfterALoad() {
-        CensusWalk walk = planned(TWO, 0, 0, 0, 1, 1, 1);
+        CensusWalk walk = Check.planned(TWO, 0, 0, 0, 1, 1, 1);
         Check.load(walk, TWO);
         Check.same("planLength(0)", walk.planLength(0), 0);
         Check.same("planLength(1)", walk.planLength(1), 0);
@@ -122,7 +128,7 @@ public final class CallBoundaryTest {
 
     @Says(in = "Promise 3", value = "An error leaves all other data unchanged.")
     static void dataAfterAnError() {
-        CensusWalk walk = planned(TWO + "gap 9;cross 9;visit 99;", 0, 0, 0, 1, 1, 1);
+        CensusWalk walk = Check.planned(TWO + "gap 9;cross 9;visit 99;", 0, 0, 0, 1, 1, 1);
         walk.setOpen(0, false);
         walk.setDog(0, true);
         List<Long> before = Snapshot.of(walk);
@@ -374,7 +380,7 @@ public final class CallBoundaryTest {
 
     @Says(in = "Promise 17", value = "`k`: index in the plan, from 0")
     static void plannedFromZero() {
-        CensusWalk walk = planned(TWO, 0, 1, 0, 0);
+        CensusWalk walk = Check.planned(TWO, 0, 1, 0, 0);
         Check.same("planned(0, 0)", walk.planned(0, 0), 1);
         Check.same("planned(0, 1)", walk.planned(0, 1), 0);
         Check.index("planned(0, -1)", () -> walk.planned(0, -1));
@@ -383,9 +389,9 @@ public final class CallBoundaryTest {
 
     @Says(in = "Promise 17", value = "Throws `IndexOutOfBoundsException` if there is no such walker or index")
     static void plannedAtNoIndex() {
-        CensusWalk walk = planned(TWO, 0, 1, 0, 0);
+        CensusWalk walk = Check.planned(TWO, 0, 1, 0, 0);
         for (int bad : NOT_OF_TWO) {
-            Check.index("planned(" + bad + ", 0)", () -> walk.planned(bad, 0));
+            Check.index("Check.planned(" + bad + ", 0)", () -> walk.planned(bad, 0));
             Check.index("planned(0, " + bad + ")", () -> walk.planned(0, bad));
         }
         Check.index("planned(1, 0), an empty plan", () -> walk.planned(1, 0));
@@ -402,7 +408,7 @@ public final class CallBoundaryTest {
 
     @Says(in = "Promise 18", value = "`k`: index in the plan, from 0")
     static void resultFromZero() {
-        CensusWalk walk = planned(TWO, 0, 1, 0, 0);
+        CensusWalk walk = Check.planned(TWO, 0, 1, 0, 0);
         Check.same("result(0, 0)", walk.result(0, 0), CensusWalk.ANSWERED);
         Check.same("result(0, 1)", walk.result(0, 1), CensusWalk.ANSWERED);
         Check.index("result(0, -1)", () -> walk.result(0, -1));
@@ -411,7 +417,7 @@ public final class CallBoundaryTest {
 
     @Says(in = "Promise 18", value = "Throws `IndexOutOfBoundsException` if there is no such walker or index")
     static void resultAtNoIndex() {
-        CensusWalk walk = planned(TWO, 0, 1, 0, 0);
+        CensusWalk walk = Check.planned(TWO, 0, 1, 0, 0);
         for (int bad : NOT_OF_TWO) {
             Check.index("result(" + bad + ", 0)", () -> walk.result(bad, 0));
             Check.index("result(0, " + bad + ")", () -> walk.result(0, bad));
@@ -430,7 +436,7 @@ public final class CallBoundaryTest {
 
     @Says(in = "Promise 19", value = "`k`: index in the plan, from 0")
     static void arrivalFromZero() {
-        CensusWalk walk = planned(TWO, 0, 1, 0, 0);
+        CensusWalk walk = Check.planned(TWO, 0, 1, 0, 0);
         Check.same("arrival(0, 0)", walk.arrival(0, 0), 104);
         Check.same("arrival(0, 1)", walk.arrival(0, 1), 124);
         Check.index("arrival(0, -1)", () -> walk.arrival(0, -1));
@@ -439,7 +445,7 @@ public final class CallBoundaryTest {
 
     @Says(in = "Promise 19", value = "Throws `IndexOutOfBoundsException` if there is no such walker or index")
     static void arrivalAtNoIndex() {
-        CensusWalk walk = planned(TWO, 0, 1, 0, 0);
+        CensusWalk walk = Check.planned(TWO, 0, 1, 0, 0);
         for (int bad : NOT_OF_TWO) {
             Check.index("arrival(" + bad + ", 0)", () -> walk.arrival(bad, 0));
             Check.index("arrival(0, " + bad + ")", () -> walk.arrival(0, bad));
@@ -458,7 +464,7 @@ public final class CallBoundaryTest {
 
     @Says(in = "Promise 20", value = "Throws `IndexOutOfBoundsException` if there is no such walker")
     static void finishOfNobody() {
-        CensusWalk walk = planned(TWO, 0, 1);
+        CensusWalk walk = Check.planned(TWO, 0, 1);
         for (int bad : NOT_OF_TWO) {
             Check.index("finish(" + bad + ")", () -> walk.finish(bad));
         }
@@ -477,7 +483,7 @@ public final class CallBoundaryTest {
         Check.same("the first is later", walk.finishAll(), 50);
         walk.plan(1, 0);
         Check.same("the second is the latest", walk.finishAll(), 1440);
-        CensusWalk early = planned("town 4;street 0 1 9;street 2 3 9;house 0 0 0 0 0 1440;walker 2 0;", 0, 0);
+        CensusWalk early = Check.planned("town 4;street 0 1 9;street 2 3 9;house 0 0 0 0 0 1440;walker 2 0;", 0, 0);
         Check.same("a finish of 0", early.finishAll(), 0);
     }
 
@@ -515,7 +521,7 @@ public final class CallBoundaryTest {
 
     @Says(in = "Promise 24", value = "Throws `IndexOutOfBoundsException` if there is no such house")
     static void callsOnNoHouse() {
-        CensusWalk walk = planned(TWO, 0, 1);
+        CensusWalk walk = Check.planned(TWO, 0, 1);
         for (int bad : NOT_OF_TWO) {
             Check.index("calls(" + bad + ")", () -> walk.calls(bad));
         }
@@ -529,7 +535,7 @@ public final class CallBoundaryTest {
         Check.same("no walker, street or house", Check.town("town 10;").checksum(), 0);
         CensusWalk one = Check.town("town 1;walker 0 1440;");
         Check.same("one walker", one.checksum(), 31L * 1440);
-        CensusWalk walk = planned(TWO, 0, 0, 0, 0, 1, 1);
+        CensusWalk walk = Check.planned(TWO, 0, 0, 0, 0, 1, 1);
         long due = 0;
         for (int n : new int[] {2, 95, 0, 1, 0, 3, 1, 110, 1, 0, 1, 0, 1, 1, 1, 1, 2}) {
             due = 31 * due + n;

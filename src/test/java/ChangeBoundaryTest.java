@@ -394,6 +394,13 @@ public final class ChangeBoundaryTest {
         Check.same("isOpen(0)", walk.isOpen(0), true);
         Check.same("undo() of load", walk.undo(), 0);
         Check.same("houseCount()", walk.houseCount(), 0);
+        CensusWalk other = Check.town(TOWN);
+        other.plan(0, 0);
+        other.unplan(0);
+        other.plan(0, 1);
+        other.undo();
+        Check.same("undo() of unplan", other.undo(), 2);
+        Check.same("the house of before", other.planned(0, 0), 0);
     }
 
     @Says(in = "Promise 34", value = "The input buffer and the error offset are not affected.")

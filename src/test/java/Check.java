@@ -77,6 +77,15 @@ final class Check {
         return walk;
     }
 
+    /** A town with plans: walker, house, walker, house, and so on. */
+    static CensusWalk planned(String text, int... walkersAndHouses) {
+        CensusWalk walk = town(text);
+        for (int i = 0; i < walkersAndHouses.length; i += 2) {
+            walk.plan(walkersAndHouses[i], walkersAndHouses[i + 1]);
+        }
+        return walk;
+    }
+
     static void right(String text, int houses) {
         CensusWalk walk = new CensusWalk();
         same("load of " + text, load(walk, text), houses);

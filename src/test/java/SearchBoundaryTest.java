@@ -23,6 +23,10 @@ public final class SearchBoundaryTest {
         Check.same("nothing to wait for", oneHouse(54, 1440).soonest(0, 1), 62);
         CensusWalk walk = Check.town("town 2;street 0 1 10;house 0 10 0 1 70 1440;house 0 0 0 1 0 51;walker 0 50;visit 7;");
         Check.same("the walker waits at the second house", walk.soonest(0, 3), 77);
+        walk.setHours(0, 67, 1440);
+        Check.same("nothing to wait for at the second house", walk.soonest(0, 3), 74);
+        walk.setHours(0, 66, 67);
+        Check.same("too late at the second house", walk.soonest(0, 3), -1);
     }
 
     @Says(in = "Promise 25", value = "the visit, with the duration of a first call, must begin when somebody is at home.")
@@ -146,6 +150,20 @@ public final class SearchBoundaryTest {
         walk.setHours(2, 120, 1440);
         Check.same("just as soon", walk.soonestOrder(0, 7, 0), 0);
         Check.same("soonest(0, 7)", walk.soonest(0, 7), 130);
+        CensusWalk four = Check.town("town 2;street 0 1 50;house 0 20 0 1 0 1440;house 0 10 0 1 0 1440;house 0 30 0 1 0 121;house 0 40 0 1 500 501;walker 0 50;");
+        order(four, 0, 1, 2, 3);
+        four.setHours(2, 0, 120);
+        order(four, 0, 2, 1, 3);
+        four.setHours(2, 0, 91);
+        order(four, 0, 2, 1, 3);
+        four.setHours(2, 0, 90);
+        order(four, 2, 0, 1, 3);
+    }
+
+    private static void order(CensusWalk walk, int... due) {
+        for (int k = 0; k < due.length; k++) {
+            Check.same("soonestOrder(0, 15, " + k + ")", walk.soonestOrder(0, 15, k), due[k]);
+        }
     }
 
     @Says(in = "Promise 26", value = "Throws `IndexOutOfBoundsException` if there is no such walker (checked first)")
@@ -264,6 +282,10 @@ public final class SearchBoundaryTest {
         walk.setHours(9, 0, 55);
         Check.same("no possible division", walk.walkerOf(0x201, 9), -1);
         Check.same("no possible division for the other either", walk.walkerOf(0x201, 0), -1);
+        CensusWalk behind = Check.town("town 3;street 0 1 10;street 1 2 10;house 1 5 0 1 0 1440;walker 0 50;");
+        Check.same("a way", behind.walkerOf(1, 0), 0);
+        behind.setOpen(0, false);
+        Check.same("no way for anybody", behind.walkerOf(1, 0), -1);
         CensusWalk nobody = Check.town("town 2;street 0 1 10;house 0 5 0 1 0 1440;");
         Check.same("no walker", nobody.walkerOf(1, 0), -1);
     }

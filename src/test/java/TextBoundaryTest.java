@@ -229,6 +229,23 @@ public final class TextBoundaryTest {
         Check.same("no crossing time", walk.distance(0, 1), 0);
         Check.same("after 59", secondCall("", 159), CensusWalk.REFUSED);
         Check.same("after 60", secondCall("", 160), CensusWalk.UNANSWERED);
+        afterOtherTexts("cross 9;gap 600;");
+        afterOtherTexts("cross 9;gap 600;x");
+        afterOtherTexts("cross 10;");
+        afterOtherTexts("gap 601;");
+    }
+
+    /** What a text before has set, a right one or a wrong one, is not left for the next. */
+    private static void afterOtherTexts(String settings) {
+        CensusWalk walk = new CensusWalk();
+        Check.load(walk, "town 2;" + settings);
+        Check.load(walk, STREET + "house 0 0 0 0 0 1;house 0 0 1 0 0 1;walker 0 100;walker 0 159;walker 0 160;");
+        Check.same("crossing time after " + settings, walk.distance(0, 1), 0);
+        walk.plan(0, 0);
+        walk.plan(1, 0);
+        walk.plan(2, 0);
+        Check.same("after 59, after " + settings, walk.result(1, 0), CensusWalk.REFUSED);
+        Check.same("after 60, after " + settings, walk.result(2, 0), CensusWalk.UNANSWERED);
     }
 
     @Says(in = "Description", value = "A number as a factor is 0 to 9999.")
@@ -240,8 +257,12 @@ public final class TextBoundaryTest {
         Check.wrong("town 2;visit 1+^10000;", RANGE);
         Check.wrong("town 2;visit 1*^10000;", RANGE);
         Check.wrong("town 2;visit (^10000);", RANGE);
-        CensusWalk walk = Check.town(STREET + "house 0 0 0 0 0 1;visit 9999-9989;");
+        CensusWalk walk = Check.town(STREET + "house 0 0 0 20 0 1 dog;visit 9999-9989;");
         Check.same("9999-9989", walk.duration(0, 1), 10);
+        for (int number = 0; number <= 3; number++) {
+            Check.load(walk, STREET + "house 0 0 0 20 0 1 dog;visit 50+" + number + ";");
+            Check.same("50+" + number, walk.duration(0, 2), 50 + number);
+        }
     }
 
     @Says(in = "Description", value = "Parentheses nest at most 4 deep.")
@@ -329,6 +350,9 @@ public final class TextBoundaryTest {
     @Says(in = "Description", value = "SYNTAX_ERROR: a token or byte that the grammar does not allow here, at its first byte")
     static void wrongTokens() {
         Check.wrong("   ^twon 2;", SYNTAX);
+        Check.wrong("^zown 2;", SYNTAX);
+        Check.wrong("^towm 2;", SYNTAX);
+        Check.wrong("town 2;^xap 1;", SYNTAX);
         Check.wrong("town   ^two;", SYNTAX);
         Check.wrong("town ^-1;", SYNTAX);
         Check.wrong("town 2;   ^1000 2;", SYNTAX);

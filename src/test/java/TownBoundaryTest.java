@@ -249,6 +249,21 @@ public final class TownBoundaryTest {
         Check.same("between the houses at its ends", walk.distance(1, 0), 891);
         walk.setOpen(4, false);
         Check.same("one of the nine is closed", walk.distanceFrom(9, 0), -1);
+        for (int crossing = 0; crossing < 10; crossing++) {
+            over(crossing);
+        }
+    }
+
+    /** Two streets that meet at one crossing lead to the street of the house, and no other way does. */
+    private static void over(int crossing) {
+        int from = (crossing + 1) % 10;
+        int next = (crossing + 2) % 10;
+        int end = (crossing + 3) % 10;
+        CensusWalk walk = Check.town("town 10;street " + from + " " + crossing + " 5;street " + next + " " + crossing + " 7;street " + next + " " + end
+                + " 9;house 2 1 0 0 0 1;house 0 2 0 0 0 1;");
+        Check.same("from a crossing over " + crossing, walk.distanceFrom(from, 0), 13);
+        Check.same("to a crossing over " + crossing, walk.distanceFrom(end, 1), 19);
+        Check.same("between houses over " + crossing, walk.distance(0, 1), 11);
     }
 
     @Says(in = "Description", value = "The distance between a crossing c and a house is the smaller one of these two sums: the distance between c and the start of its street, plus the offset; the distance between c and the end of its street, plus the length minus the offset.")

@@ -13,14 +13,6 @@ public final class WalkBoundaryTest {
         Boundaries.run(WalkBoundaryTest.class);
     }
 
-    private static CensusWalk planned(String text, int... walkersAndHouses) {
-        CensusWalk walk = Check.town(text);
-        for (int i = 0; i < walkersAndHouses.length; i += 2) {
-            walk.plan(walkersAndHouses[i], walkersAndHouses[i + 1]);
-        }
-        return walk;
-    }
-
     @Says(in = "Description", value = "There are at most 3 walkers.")
     static void numberOfWalkers() {
         Check.same("no walker", Check.town("town 1;").walkerCount(), 0);
@@ -77,7 +69,7 @@ public final class WalkBoundaryTest {
 
     @Says(in = "Description", value = "At first each walker is at the start crossing at the start time.")
     static void atTheStart() {
-        CensusWalk walk = planned(LINE + "walker 0 0;walker 1 1440;", 0, 0, 1, 1);
+        CensusWalk walk = Check.planned(LINE + "walker 0 0;walker 1 1440;", 0, 0, 1, 1);
         Check.row(walk, 0, 0, ANSWERED, 0);
         Check.row(walk, 1, 0, UNANSWERED, 1440);
     }
@@ -86,43 +78,54 @@ public final class WalkBoundaryTest {
     @Says(in = "Description", value = "For each walker whose plan has further houses, consider the next one: the arrival is the walker's time plus the distance to the house; if there is no distance, the arrival is the walker's time.")
     static void walkersWithFurtherHouses() {
         String text = "town 4;street 0 1 10;street 2 3 10;house 0 0 0 1 0 1440;house 0 10 0 2 0 1440;house 1 0 0 4 0 1440;visit 3;";
-        CensusWalk walk = planned(text + "walker 0 50;walker 1 20;", 0, 1, 0, 0);
+        CensusWalk walk = Check.planned(text + "walker 0 50;walker 1 20;", 0, 1, 0, 0);
         Check.row(walk, 0, 0, ANSWERED, 60);
         Check.row(walk, 0, 1, ANSWERED, 73);
         walk.plan(1, 1);
         Check.row(walk, 1, 0, ANSWERED, 20);
         Check.row(walk, 0, 0, DONE, 60);
         Check.row(walk, 0, 1, ANSWERED, 70);
-        CensusWalk none = planned(text + "walker 0 50;walker 2 50;", 0, 2, 0, 0, 1, 0, 1, 2);
+        CensusWalk none = Check.planned(text + "walker 0 50;walker 2 50;", 0, 2, 0, 0, 1, 0, 1, 2);
         Check.row(none, 0, 0, UNREACHABLE, 50);
         Check.row(none, 0, 1, ANSWERED, 50);
         Check.row(none, 1, 0, UNREACHABLE, 50);
         Check.row(none, 1, 1, ANSWERED, 50);
+        CensusWalk both = Check.planned(text + "walker 0 50;walker 0 50;", 0, 2, 0, 2, 0, 0, 1, 2, 1, 0);
+        Check.row(both, 0, 2, ANSWERED, 50);
+        Check.row(both, 1, 1, DONE, 50);
+        CensusWalk second = Check.planned(text + "walker 0 50;walker 0 49;", 0, 0, 1, 2, 1, 0);
+        Check.row(second, 0, 0, DONE, 50);
+        Check.row(second, 1, 0, UNREACHABLE, 49);
+        Check.row(second, 1, 1, ANSWERED, 49);
     }
 
     @Says(in = "Description", value = "In each step the walker with the smallest arrival is treated, of several the one with the smallest index:")
     static void smallestArrivalThenSmallestIndex() {
         String middle = "town 2;street 0 1 10;house 0 5 0 1 0 1440;";
-        CensusWalk tie = planned(middle + "walker 0 50;walker 1 50;walker 0 50;", 2, 0, 1, 0, 0, 0);
+        CensusWalk tie = Check.planned(middle + "walker 0 50;walker 1 50;walker 0 50;", 2, 0, 1, 0, 0, 0);
         Check.row(tie, 0, 0, ANSWERED, 55);
         Check.row(tie, 1, 0, DONE, 55);
         Check.row(tie, 2, 0, DONE, 55);
-        CensusWalk second = planned(middle + "walker 0 51;walker 1 50;walker 0 50;", 0, 0, 1, 0, 2, 0);
+        CensusWalk second = Check.planned(middle + "walker 0 51;walker 1 50;walker 0 50;", 0, 0, 1, 0, 2, 0);
         Check.row(second, 0, 0, DONE, 56);
         Check.row(second, 1, 0, ANSWERED, 55);
         Check.row(second, 2, 0, DONE, 55);
-        CensusWalk third = planned(middle + "walker 0 50;walker 1 50;walker 0 49;", 0, 0, 1, 0, 2, 0);
+        CensusWalk third = Check.planned(middle + "walker 0 50;walker 1 50;walker 0 49;", 0, 0, 1, 0, 2, 0);
         Check.row(third, 0, 0, DONE, 55);
         Check.row(third, 1, 0, DONE, 55);
         Check.row(third, 2, 0, ANSWERED, 54);
-        CensusWalk farther = planned("town 2;street 0 1 10;house 0 2 0 1 0 1440;walker 1 45;walker 0 50;", 0, 0, 1, 0);
+        CensusWalk here = Check.planned("town 2;street 0 1 10;house 0 1 0 1 0 1440;house 0 0 0 1 0 1440;walker 1 41;walker 0 49;walker 0 50;", 0, 1, 1, 0, 2, 1);
+        Check.row(here, 0, 0, DONE, 51);
+        Check.row(here, 1, 0, ANSWERED, 50);
+        Check.row(here, 2, 0, ANSWERED, 50);
+        CensusWalk farther = Check.planned("town 2;street 0 1 10;house 0 2 0 1 0 1440;walker 1 45;walker 0 50;", 0, 0, 1, 0);
         Check.row(farther, 0, 0, DONE, 53);
         Check.row(farther, 1, 0, ANSWERED, 52);
     }
 
     @Says(in = "Description", value = "If there is no distance, the result is UNREACHABLE; the walker's place and time stay.")
     static void unreachable() {
-        CensusWalk walk = planned("town 4;street 0 1 10;street 2 3 10;house 0 2 0 1 0 1440;house 1 0 0 2 0 1440;house 0 7 0 4 0 1440;walker 1 50;visit 5;",
+        CensusWalk walk = Check.planned("town 4;street 0 1 10;street 2 3 10;house 0 2 0 1 0 1440;house 1 0 0 2 0 1440;house 0 7 0 4 0 1440;walker 1 50;visit 5;",
                 0, 1, 0, 0, 0, 1, 0, 1, 0, 2, 0, 1);
         Check.row(walk, 0, 0, UNREACHABLE, 50);
         Check.row(walk, 0, 1, ANSWERED, 58);
@@ -137,21 +140,21 @@ public final class WalkBoundaryTest {
 
     @Says(in = "Description", value = "Otherwise the walker goes to the house; the walker's time is the arrival t now.")
     static void goingWithoutACall() {
-        CensusWalk walk = planned(LINE + "walker 0 50;visit 1;", 0, 0, 0, 1, 0, 0, 0, 1);
+        CensusWalk walk = Check.planned(LINE + "walker 0 50;visit 1;", 0, 0, 0, 1, 0, 0, 0, 1);
         Check.row(walk, 0, 2, DONE, 72);
         Check.row(walk, 0, 3, DONE, 82);
         Check.same("finish(0)", walk.finish(0), 82);
-        CensusWalk here = planned(LINE + "walker 0 50;visit 1;", 0, 0, 0, 0);
+        CensusWalk here = Check.planned(LINE + "walker 0 50;visit 1;", 0, 0, 0, 0);
         Check.row(here, 0, 1, DONE, 51);
     }
 
     /** A counted house is DONE even where a call on it would be refused: within the gap, and after two calls. */
     @Says(in = "Description", value = "If the house has been counted, the result is DONE.")
     static void done() {
-        CensusWalk first = planned(LINE + "walker 0 50;gap 600;", 0, 0, 0, 0);
+        CensusWalk first = Check.planned(LINE + "walker 0 50;gap 600;", 0, 0, 0, 0);
         Check.row(first, 0, 0, ANSWERED, 50);
         Check.row(first, 0, 1, DONE, 60);
-        CensusWalk second = planned("town 2;street 0 1 10;house 0 0 0 1 51 1440;walker 0 50;gap 0;", 0, 0, 0, 0, 0, 0);
+        CensusWalk second = Check.planned("town 2;street 0 1 10;house 0 0 0 1 51 1440;walker 0 50;gap 0;", 0, 0, 0, 0, 0, 0);
         Check.row(second, 0, 0, UNANSWERED, 50);
         Check.row(second, 0, 1, ANSWERED, 51);
         Check.row(second, 0, 2, DONE, 61);
@@ -160,13 +163,13 @@ public final class WalkBoundaryTest {
 
     @Says(in = "Description", value = "If it has been called on twice")
     static void calledOnTwice() {
-        CensusWalk walk = planned("town 2;street 0 1 10;house 0 0 0 1 52 1440;walker 0 50;gap 0;", 0, 0, 0, 0, 0, 0);
+        CensusWalk walk = Check.planned("town 2;street 0 1 10;house 0 0 0 1 52 1440;walker 0 50;gap 0;", 0, 0, 0, 0, 0, 0);
         Check.row(walk, 0, 0, UNANSWERED, 50);
         Check.row(walk, 0, 1, UNANSWERED, 51);
         Check.row(walk, 0, 2, REFUSED, 52);
         Check.same("calls(0)", walk.calls(0), 2);
         Check.same("counted()", walk.counted(), 0);
-        CensusWalk later = planned("town 2;street 0 1 10;house 0 0 0 1 500 1440;walker 0 0;walker 0 60;walker 0 500;", 0, 0, 1, 0, 2, 0);
+        CensusWalk later = Check.planned("town 2;street 0 1 10;house 0 0 0 1 500 1440;walker 0 0;walker 0 60;walker 0 500;", 0, 0, 1, 0, 2, 0);
         Check.row(later, 1, 0, UNANSWERED, 60);
         Check.row(later, 2, 0, REFUSED, 500);
     }
@@ -176,12 +179,12 @@ public final class WalkBoundaryTest {
         int[] gaps = {0, 1, 2, 60, 600};
         for (int gap : gaps) {
             String text = EMPTY + "gap " + gap + ";walker 0 100;walker 0 ";
-            Check.row(planned(text + (100 + gap) + ";", 0, 0, 1, 0), 1, 0, UNANSWERED, 100 + gap);
+            Check.row(Check.planned(text + (100 + gap) + ";", 0, 0, 1, 0), 1, 0, UNANSWERED, 100 + gap);
             if (gap > 0) {
-                Check.row(planned(text + (99 + gap) + ";", 0, 0, 1, 0), 1, 0, REFUSED, 99 + gap);
+                Check.row(Check.planned(text + (99 + gap) + ";", 0, 0, 1, 0), 1, 0, REFUSED, 99 + gap);
             }
         }
-        CensusWalk midnight = planned(EMPTY + "gap 600;walker 0 0;walker 0 0;walker 0 600;", 0, 0, 1, 0, 2, 0);
+        CensusWalk midnight = Check.planned(EMPTY + "gap 600;walker 0 0;walker 0 0;walker 0 600;", 0, 0, 1, 0, 2, 0);
         Check.row(midnight, 0, 0, UNANSWERED, 0);
         Check.row(midnight, 1, 0, REFUSED, 0);
         Check.row(midnight, 2, 0, UNANSWERED, 600);
@@ -189,7 +192,7 @@ public final class WalkBoundaryTest {
 
     @Says(in = "Description", value = "In both cases no call takes place and no more time passes.")
     static void doneAndRefusedTakeNoTime() {
-        CensusWalk walk = planned(LINE + "walker 0 50;walker 0 110;gap 60;", 0, 0, 0, 0, 0, 2, 0, 2, 0, 2, 1, 2);
+        CensusWalk walk = Check.planned(LINE + "walker 0 50;walker 0 110;gap 60;", 0, 0, 0, 0, 0, 2, 0, 2, 0, 2, 1, 2);
         Check.row(walk, 0, 1, DONE, 60);
         Check.row(walk, 0, 2, UNANSWERED, 60);
         Check.row(walk, 0, 3, REFUSED, 61);
@@ -204,7 +207,7 @@ public final class WalkBoundaryTest {
     /** The gap counts from the call itself: a refusal in between does not put it off. */
     @Says(in = "Description", value = "Otherwise the walker calls on the house: this is its first or second call.")
     static void firstAndSecondCall() {
-        CensusWalk walk = planned("town 2;street 0 1 10;house 0 0 0 1 110 1440;walker 0 50;walker 0 80;walker 0 110;visit call*40;", 0, 0, 1, 0, 2, 0);
+        CensusWalk walk = Check.planned("town 2;street 0 1 10;house 0 0 0 1 110 1440;walker 0 50;walker 0 80;walker 0 110;visit call*40;", 0, 0, 1, 0, 2, 0);
         Check.row(walk, 0, 0, UNANSWERED, 50);
         Check.row(walk, 1, 0, REFUSED, 80);
         Check.row(walk, 2, 0, ANSWERED, 110);
@@ -218,7 +221,7 @@ public final class WalkBoundaryTest {
     @Says(in = "Description", value = "If somebody is at home at t, the result is ANSWERED, the house is counted, and the walker's time increases by the duration of the visit.")
     static void answeredAtTheEndsOfTheHours() {
         for (int[] hours : new int[][] {{50, 51}, {50, 1440}, {0, 51}}) {
-            CensusWalk walk = planned("town 2;street 0 1 10;house 0 0 0 7 " + hours[0] + " " + hours[1] + ";walker 0 50;visit 240;", 0, 0);
+            CensusWalk walk = Check.planned("town 2;street 0 1 10;house 0 0 0 7 " + hours[0] + " " + hours[1] + ";walker 0 50;visit 240;", 0, 0);
             Check.row(walk, 0, 0, ANSWERED, 50);
             Check.same("finish(0)", walk.finish(0), 290);
             Check.same("counted()", walk.counted(), 1);
@@ -229,7 +232,7 @@ public final class WalkBoundaryTest {
     @Says(in = "Description", value = "Otherwise the result is UNANSWERED, and the walker's time increases by 1.")
     static void unansweredBesideTheHours() {
         for (int[] hours : new int[][] {{51, 52}, {51, 1440}, {0, 50}, {49, 50}}) {
-            CensusWalk walk = planned("town 2;street 0 1 10;house 0 0 0 7 " + hours[0] + " " + hours[1] + ";walker 0 50;visit 240;", 0, 0);
+            CensusWalk walk = Check.planned("town 2;street 0 1 10;house 0 0 0 7 " + hours[0] + " " + hours[1] + ";walker 0 50;visit 240;", 0, 0);
             Check.row(walk, 0, 0, UNANSWERED, 50);
             Check.same("finish(0)", walk.finish(0), 51);
             Check.same("counted()", walk.counted(), 0);
