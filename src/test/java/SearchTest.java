@@ -7,6 +7,7 @@ public final class SearchTest {
         orders();
         firstOfSeveralOrders();
         waitingMakesUp();
+        soonerOverAnotherHouse();
         noWay();
         divisions();
         firstOfSeveralDivisions();
@@ -84,6 +85,27 @@ public final class SearchTest {
         walk.setHours(2, 119, 120);
         order(walk, 0, 7, 1, 0, 2);
         closingTime();
+    }
+
+    /**
+     * All stand at crossing 0; from house 0 straight across its street to house 1 takes 9 minutes, over house 2 round the corner
+     * just the visit there: so house 1 is too late if it is next, but not if it is last.
+     */
+    private static void soonerOverAnotherHouse() {
+        CensusWalk walk = Check.town("town 3;street 0 1 10;street 0 2 10;cross 9;visit 1;house 0 0 0 1 0 51;house 0 0 1 1 0 60;house 1 0 0 1 0 1440;walker 0 50;");
+        Check.same("soonest(0, 3)", walk.soonest(0, 3), -1);
+        order(walk, 0, 7, 0, 2, 1);
+        Check.same("soonest(0, 7)", walk.soonest(0, 7), 53);
+        Check.same("division(3)", walk.division(3), -1);
+        Check.same("division(7)", walk.division(7), 53);
+        Check.same("walkerOf(3, 0)", walk.walkerOf(3, 0), -1);
+        Check.same("walkerOf(7, 0)", walk.walkerOf(7, 0), 0);
+        walk.setHours(1, 0, 61);
+        Check.same("soonest(0, 3)", walk.soonest(0, 3), 61);
+        order(walk, 0, 3, 0, 1);
+        order(walk, 0, 7, 0, 2, 1);
+        Check.same("more houses are done sooner", walk.soonest(0, 7), 53);
+        Check.same("division(3)", walk.division(3), 61);
     }
 
     /** House 3 opens so late that all orders end at 510, but after 0, 1 the walker is at house 2 at 120. */

@@ -121,6 +121,23 @@ public final class WalkBoundaryTest {
         CensusWalk farther = Check.planned("town 2;street 0 1 10;house 0 2 0 1 0 1440;walker 1 45;walker 0 50;", 0, 0, 1, 0);
         Check.row(farther, 0, 0, DONE, 53);
         Check.row(farther, 1, 0, ANSWERED, 52);
+        smallestArrivalAtLaterHouses();
+    }
+
+    /** One walker has a short way to the first house and a long one to the second, the other one just the reverse. */
+    private static void smallestArrivalAtLaterHouses() {
+        String street = "town 2;street 0 1 30;house 0 0 0 1 0 1440;house 0 20 0 2 0 1440;house 0 24 0 4 0 1440;visit 1;";
+        CensusWalk second = Check.planned(street + "walker 0 50;walker 0 48;", 0, 0, 0, 2, 1, 1, 1, 2);
+        Check.row(second, 0, 0, ANSWERED, 50);
+        Check.row(second, 0, 1, DONE, 75);
+        Check.row(second, 1, 0, ANSWERED, 68);
+        Check.row(second, 1, 1, ANSWERED, 73);
+        CensusWalk first = Check.planned(street + "walker 0 50;walker 0 52;", 0, 1, 0, 2, 1, 0, 1, 2);
+        Check.row(first, 0, 1, ANSWERED, 75);
+        Check.row(first, 1, 1, DONE, 77);
+        CensusWalk same = Check.planned(street + "walker 0 50;walker 0 50;", 0, 1, 0, 2, 1, 0, 1, 2);
+        Check.row(same, 0, 1, ANSWERED, 75);
+        Check.row(same, 1, 1, DONE, 75);
     }
 
     @Says(in = "Description", value = "If there is no distance, the result is UNREACHABLE; the walker's place and time stay.")
